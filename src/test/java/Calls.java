@@ -1,0 +1,85 @@
+import java.lang.reflect.InvocationTargetException;
+import java.lang.reflect.Method;
+import java.util.ArrayList;
+import java.util.List;
+
+/** Runs of calls that are written as the document and the issues write them, with the answers due. */
+final class Calls {
+    private static int told = 0;
+    private static int wrong = 0;
+
+    private Calls() {
+    }
+
+    /** Runs the lines, each "call(1, true) => answer", on a new object. */
+    static void run(String name, String lines) {
+        Relationkeys object = new Relationkeys();
+        for (String line : lines.strip().split("\n")) {
+            if (line.isBlank()) {
+                continue;
+            }
+            String[] halves = line.strip().split(" => ", 2);
+            if (halves.length != 2) {
+                throw new IllegalArgumentException("no answer in: " + line);
+            }
+            due(name + ": " + halves[0], answer(object, halves[0]), halves[1].strip());
+        }
+    }
+
+    static void due(String what, String got, String want) {
+        told++;
+        if (!got.equals(want)) {
+            wrong++;
+            System.out.println(what + " answered " + got + ", due is " + want);
+        }
+    }
+
+    static int wrong() {
+        return wrong;
+    }
+
+    /** Tells the outcome and ends the program, by 1 if an answer was wrong. */
+    static void end() {
+        System.out.println(told + " answers, " + wrong + " of them wrong");
+        System.exit(wrong == 0 && told > 0 ? 0 : 1);
+    }
+
+    static String answer(Object object, String call) {
+        int open = call.indexOf('(');
+        String inside = call.substring(open + 1, call.lastIndexOf(')'));
+        List<Object> arguments = new ArrayList<>();
+        for (String word : inside.split(",")) {
+            if (!word.isBlank()) {
+                arguments.add(argument(word.strip()));
+            }
+        }
+        return answer(object, call.substring(0, open), arguments);
+    }
+
+    static String answer(Object object, String name, List<Object> arguments) {
+        try {
+            Object got = method(object, name).invoke(object, arguments.toArray());
+            return got instanceof String ? "\"" + got + "\"" : String.valueOf(got);
+        } catch (InvocationTargetException e) {
+            return "throws." + e.getCause().getClass().getSimpleName();
+        } catch (IllegalAccessException e) {
+            throw new IllegalStateException(e);
+        }
+    }
+
+    private static Object argument(String word) {
+        if (word.equals("true") || word.equals("false")) {
+            return Boolean.valueOf(word);
+        }
+        return Integer.valueOf(word);
+    }
+
+    private static Method method(Object object, String name) {
+        for (Method method : object.getClass().getDeclaredMethods()) {
+            if (method.getName().equals(name)) {
+                return method;
+            }
+        }
+        throw new IllegalArgumentException("no method " + name);
+    }
+}
