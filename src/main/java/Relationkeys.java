@@ -455,7 +455,7 @@ public final class Relationkeys {
         }
 
         static boolean holds(long pairs, int x, int y) {
-            return (pairs >>> (THINGS * x + y) & 1L) != 0;
+            return (pairs & single(x, y)) != NO_PAIR;
         }
 
         static boolean isIn(int set, int thing) {

@@ -5,6 +5,7 @@ public final class WholeTest {
         house();
         isSound();
         digest();
+        digestOfRichStates();
         whatIsAskedChangesNothing();
         Calls.end();
     }
@@ -84,6 +85,44 @@ public final class WholeTest {
             digest() => -172523343081493717
             digest() => -172523343081493717
             """);
+    }
+
+    private static final String[] RICH_STATE = {
+        "aim(0, 0, 6)", "aim(0, 2, 130)", "aim(0, 7, 1)", "aim(0, 6, 65)", "send(0, 3, 3)",
+        "put(1, 1, 7)", "put(1, 2, 7)", "close(1, 3)", "copy(0, 2)", "firsts(2, 5)", "knock()", "classes(0)"
+    };
+
+    private static void digestOfRichStates() {
+        Relationkeys object = new Relationkeys();
+        for (String call : RICH_STATE) {
+            Calls.answer(object, call);
+            long due = askedDigest(object);
+            Calls.due("47 digest after " + call, Calls.answer(object, "digest()"), "" + due);
+        }
+    }
+
+    /** Put together by the order of promise 47 out of what the object's other calls answer. */
+    private static long askedDigest(Relationkeys object) {
+        long d = 7845;
+        for (int what = 0; what <= 4; what++) {
+            d = added(d, object.house(what));
+        }
+        for (int relation = 0; relation < 4; relation++) {
+            d = added(d, object.count(relation), object.hash(relation), object.text(relation).length());
+            d = added(d, object.images(relation), object.fixed(relation));
+            for (int thing = 0; thing < 8; thing++) {
+                d = added(d, object.image(relation, thing), object.source(relation, thing));
+                d = added(d, object.reach(relation, thing));
+            }
+            for (int kind = 0; kind <= 9; kind++) {
+                d = added(d, object.is(relation, kind) ? 1 : 0);
+            }
+            for (int other = 0; other < 4; other++) {
+                d = added(d, object.isWithin(relation, other) ? 1 : 0);
+                d = added(d, object.areAlike(relation, other) ? 1 : 0, object.areApart(relation, other) ? 1 : 0);
+            }
+        }
+        return added(d, object.isSound() ? 1 : 0);
     }
 
     /** Worked out by the order of promise 47 and what is so of relations without pairs. */
