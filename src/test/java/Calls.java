@@ -1,10 +1,14 @@
 import java.lang.reflect.InvocationTargetException;
 import java.lang.reflect.Method;
 import java.util.ArrayList;
+import java.util.HashMap;
 import java.util.List;
+import java.util.Map;
 
 /** Runs of calls that are written as the document and the issues write them, with the answers due. */
 final class Calls {
+    private static final Map<Class<?>, Map<String, Method>> METHODS = new HashMap<>();
+
     private static int told = 0;
     private static int wrong = 0;
 
@@ -24,6 +28,34 @@ final class Calls {
             }
             due(name + ": " + halves[0], answer(object, halves[0]), halves[1].strip());
         }
+    }
+
+    /** A new object after some calls, "call(1); call(2)", whose answers are not looked at. */
+    static Relationkeys after(String calls) {
+        Relationkeys object = new Relationkeys();
+        makeAll(object, calls);
+        return object;
+    }
+
+    static void makeAll(Object object, String calls) {
+        for (String call : calls.split(";")) {
+            if (!call.isBlank()) {
+                answer(object, call.strip());
+            }
+        }
+    }
+
+    /** All that can be told of an object, without a call that may be refused. */
+    static String stateOf(Relationkeys object) {
+        return pairsOf(object) + ", " + object.house(1) + " refused, " + object.house(2) + " knocked, " + object.digest();
+    }
+
+    static String pairsOf(Relationkeys object) {
+        StringBuilder pairs = new StringBuilder();
+        for (int relation = 0; relation < 4; relation++) {
+            pairs.append('[').append(object.text(relation)).append(']');
+        }
+        return pairs.toString();
     }
 
     static void due(String what, String got, String want) {
@@ -74,12 +106,17 @@ final class Calls {
         return Integer.valueOf(word);
     }
 
+    /** Methods are looked up once: some tests make a hundred thousand calls. */
     private static Method method(Object object, String name) {
-        for (Method method : object.getClass().getDeclaredMethods()) {
-            if (method.getName().equals(name)) {
-                return method;
+        Map<String, Method> known = METHODS.computeIfAbsent(object.getClass(), owner -> new HashMap<>());
+        if (known.isEmpty()) {
+            for (Method method : object.getClass().getDeclaredMethods()) {
+                known.put(method.getName(), method);
             }
         }
-        throw new IllegalArgumentException("no method " + name);
+        if (!known.containsKey(name)) {
+            throw new IllegalArgumentException("no method " + name);
+        }
+        return known.get(name);
     }
 }

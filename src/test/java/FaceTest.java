@@ -4,6 +4,8 @@ import java.lang.reflect.Method;
 import java.lang.reflect.Modifier;
 import java.nio.file.Files;
 import java.nio.file.Path;
+import java.util.ArrayList;
+import java.util.List;
 import java.util.Set;
 import java.util.TreeSet;
 import java.util.regex.Matcher;
@@ -18,6 +20,7 @@ public final class FaceTest {
         constructors(face);
         fields(face);
         classesInside(face);
+        hiddenNames(face);
         Calls.end();
     }
 
@@ -67,6 +70,22 @@ public final class FaceTest {
             boolean isHidden = !Modifier.isPublic(modifiers) && !Modifier.isProtected(modifiers);
             Calls.due(inside + " is hidden and static", "" + (isHidden && Modifier.isStatic(modifiers)), "true");
             fields(inside);
+        }
+    }
+
+    /** No method that is not of the face bears the name of one that is. */
+    private static void hiddenNames(Class<?> face) {
+        Set<String> names = new TreeSet<>();
+        for (Method method : face.getMethods()) {
+            names.add(method.getName());
+        }
+        List<Method> hidden = new ArrayList<>(List.of(face.getDeclaredMethods()));
+        hidden.removeIf(method -> Modifier.isPublic(method.getModifiers()));
+        for (Class<?> inside : face.getDeclaredClasses()) {
+            hidden.addAll(List.of(inside.getDeclaredMethods()));
+        }
+        for (Method method : hidden) {
+            Calls.due(method + " bears a public name", "" + names.contains(method.getName()), "false");
         }
     }
 }

@@ -1,0 +1,119 @@
+import java.net.URL;
+import java.net.URLClassLoader;
+import java.nio.file.Files;
+import java.nio.file.Path;
+import javax.tools.ToolProvider;
+
+/**
+ * Promise 46: the laws are true of all relations, so the class as it is can't tell whether isSound looks
+ * at a law. Here one fault is planted into a copy of the source, so small that it breaks one law alone:
+ * isSound has to find it, wherever in the ring of relations (behind 3 comes 0) it stands.
+ */
+public final class LawsTest {
+    private static final Path SOURCE = Path.of("src/main/java/Relationkeys.java");
+    private static final Path FOLDER = Path.of("build/laws");
+    private static final String CHAINED = "static long chained(long one, long other) {";
+    private static final String TURNED = "static long turned(long pairs) {";
+    private static final String CLOSED = "static long closed(long pairs, int which) {";
+    private static final String KERNEL = "static long kernelOf(long pairs) {";
+    private static final String RESIDUAL = "static long residualOf(long one, long other) {";
+    private static final String COPIED = "static long copiedBackwards(long pairs) {";
+
+    /** The images that a, b, c and the relation behind c get; a is of no KIND 0, 2, 4, a THROUGH b not WITHIN c. */
+    private static final String[] PLACES = {
+        "aim(%1$d, 0, 6); aim(%1$d, 3, 16); aim(%1$d, 7, 1)",
+        "aim(%1$d, 1, 32); aim(%1$d, 4, 65); aim(%1$d, 0, 8)",
+        "aim(%1$d, 5, 4); aim(%1$d, 6, 128); aim(%1$d, 3, 8)",
+        "aim(%1$d, 2, 68)"
+    };
+
+    public static void main(String[] arguments) throws Exception {
+        found("no fault", CHAINED, "", true);
+        relationsOfThree();
+        relationsOfOne();
+        closures();
+        Calls.end();
+    }
+
+    private static void relationsOfThree() throws Exception {
+        long chain = made("through(0, 1, 0)");
+        long c = made("copy(2, 0)");
+        long turned = made("turn(0)");
+        long notC = made("flip(2); copy(2, 0)");
+        found("associativity", CHAINED, ofTwo(chain, c, "NO_PAIR"), false);
+        found("a chain turned", TURNED, ofOne(chain, "NO_PAIR"), false);
+        found("a chain within c just if it is told by the turned one", CHAINED, ofTwo(turned, notC, "NO_PAIR"), false);
+        found("through the residual within b", RESIDUAL, ofTwo(made(""), made("copy(1, 0)"), "EVERY_PAIR"), false);
+    }
+
+    private static void relationsOfOne() throws Exception {
+        long a = made("");
+        found("turned twice", TURNED, ofOne(made("turn(0)"), "NO_PAIR"), false);
+        found("the kernel is an equivalence", KERNEL, ofOne(a, "NO_PAIR"), false);
+        found("the copy put together the other way round", COPIED, ofOne(a, "NO_PAIR"), false);
+    }
+
+    private static void closures() throws Exception {
+        for (int which = 0; which <= 3; which++) {
+            String ofA = "which == " + which + " && " + isIt("pairs", made(""));
+            String ofClosed = "which == " + which + " && " + isIt("pairs", made("close(0, " + which + ")"));
+            String closureOfNone = which == 0 || which == 3 ? "IDENTITY" : "NO_PAIR";
+            found("closure " + which + " once more", CLOSED, fault(ofClosed, "EVERY_PAIR"), false);
+            found("closure " + which + " has all of a", CLOSED, fault(ofA, closureOfNone), false);
+            found("closure " + which + " is of its kind", CLOSED, fault(ofA, "pairs"), false);
+        }
+    }
+
+    private static String ofOne(long pairs, String answer) {
+        return fault(isIt("pairs", pairs), answer);
+    }
+
+    private static String ofTwo(long one, long other, String answer) {
+        return fault(isIt("one", one) + " && " + isIt("other", other), answer);
+    }
+
+    private static String isIt(String name, long pairs) {
+        return name + " == " + pairs + "L";
+    }
+
+    private static String fault(String condition, String answer) {
+        return " if (" + condition + ") { return " + answer + "; }";
+    }
+
+    /** Plants the line behind the method's head and asks isSound() with a at each place. */
+    private static void found(String name, String head, String line, boolean due) throws Exception {
+        String source = Files.readString(SOURCE);
+        Calls.due("the source has " + head, "" + source.contains(head), "true");
+        Path place = Files.createDirectories(FOLDER.resolve(name.replace(' ', '_')));
+        Path copy = Files.writeString(place.resolve("Relationkeys.java"), source.replace(head, head + line));
+        int outcome = ToolProvider.getSystemJavaCompiler().run(null, null, null, "-d", place.toString(), copy.toString());
+        Calls.due("compiling the fault of " + name, "" + outcome, "0");
+        try (URLClassLoader loader = new URLClassLoader(new URL[] {place.toUri().toURL()}, null)) {
+            for (int first = 0; first < 4; first++) {
+                Object object = loader.loadClass("Relationkeys").getConstructor().newInstance();
+                Calls.due(name + ": isSound() of none", Calls.answer(object, "isSound()"), "true");
+                Calls.makeAll(object, callsFrom(first));
+                String what = "isSound() of " + name + " with a as relation " + first;
+                Calls.due(what, Calls.answer(object, "isSound()"), "" + due);
+            }
+        }
+    }
+
+    private static String callsFrom(int first) {
+        StringBuilder calls = new StringBuilder();
+        for (int k = 0; k < 4; k++) {
+            calls.append(PLACES[k].formatted((first + k) % 4)).append("; ");
+        }
+        return calls.toString();
+    }
+
+    /** What relation 0 is after the calls, as the source holds it: the pair (x, y) as bit 8 * x + y. */
+    private static long made(String calls) {
+        Relationkeys object = Calls.after(callsFrom(0) + calls);
+        long pairs = 0;
+        for (int x = 0; x < 8; x++) {
+            pairs |= (long) object.image(0, x) << 8 * x;
+        }
+        return pairs;
+    }
+}
