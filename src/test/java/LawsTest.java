@@ -32,6 +32,8 @@ public final class LawsTest {
         relationsOfThree();
         relationsOfOne();
         closures();
+        closuresOfKind9();
+        digestOfWhatIsNotSound();
         Calls.end();
     }
 
@@ -64,6 +66,26 @@ public final class LawsTest {
         }
     }
 
+    /** A closure that is of two of the KINDS 0, 2 and 4, but not of the third. */
+    private static void closuresOfKind9() throws Exception {
+        String[] almost = {"close(0, 0); close(0, 1)", "close(0, 2); close(0, 0)", "close(0, 1); close(0, 2)"};
+        for (String calls : almost) {
+            long closed = made(calls);
+            String ofBoth = "which == 3 && (" + isIt("pairs", made("")) + " || " + isIt("pairs", closed) + ")";
+            found("closure 3 as by " + calls, CLOSED, fault(ofBoth, closed + "L"), false);
+        }
+    }
+
+    /** Promise 47: 0 is the last number then, not 1; the kernel stands nowhere else in it. */
+    private static void digestOfWhatIsNotSound() throws Exception {
+        long sound = Calls.after(callsFrom(0)).digest();
+        try (URLClassLoader loader = planted("digest", KERNEL, ofOne(made(""), "NO_PAIR"))) {
+            Object object = newObject(loader);
+            Calls.makeAll(object, callsFrom(0));
+            Calls.due("47 digest() of what is not sound", Calls.answer(object, "digest()"), "" + (sound - 1));
+        }
+    }
+
     private static String ofOne(long pairs, String answer) {
         return fault(isIt("pairs", pairs), answer);
     }
@@ -80,23 +102,32 @@ public final class LawsTest {
         return " if (" + condition + ") { return " + answer + "; }";
     }
 
-    /** Plants the line behind the method's head and asks isSound() with a at each place. */
+    /** Asks isSound() of a class with the fault, with a at each place of the ring. */
     private static void found(String name, String head, String line, boolean due) throws Exception {
-        String source = Files.readString(SOURCE);
-        Calls.due("the source has " + head, "" + source.contains(head), "true");
-        Path place = Files.createDirectories(FOLDER.resolve(name.replace(' ', '_')));
-        Path copy = Files.writeString(place.resolve("Relationkeys.java"), source.replace(head, head + line));
-        int outcome = ToolProvider.getSystemJavaCompiler().run(null, null, null, "-d", place.toString(), copy.toString());
-        Calls.due("compiling the fault of " + name, "" + outcome, "0");
-        try (URLClassLoader loader = new URLClassLoader(new URL[] {place.toUri().toURL()}, null)) {
+        try (URLClassLoader loader = planted(name, head, line)) {
             for (int first = 0; first < 4; first++) {
-                Object object = loader.loadClass("Relationkeys").getConstructor().newInstance();
+                Object object = newObject(loader);
                 Calls.due(name + ": isSound() of none", Calls.answer(object, "isSound()"), "true");
                 Calls.makeAll(object, callsFrom(first));
                 String what = "isSound() of " + name + " with a as relation " + first;
                 Calls.due(what, Calls.answer(object, "isSound()"), "" + due);
             }
         }
+    }
+
+    /** A copy of the class with the line behind the method's head. */
+    private static URLClassLoader planted(String name, String head, String line) throws Exception {
+        String source = Files.readString(SOURCE);
+        Calls.due("the source has " + head, "" + source.contains(head), "true");
+        Path place = Files.createDirectories(FOLDER.resolve(name.replaceAll("\\W", "_")));
+        Path copy = Files.writeString(place.resolve("Relationkeys.java"), source.replace(head, head + line));
+        int outcome = ToolProvider.getSystemJavaCompiler().run(null, null, null, "-d", place.toString(), copy.toString());
+        Calls.due("compiling the fault of " + name, "" + outcome, "0");
+        return new URLClassLoader(new URL[] {place.toUri().toURL()}, null);
+    }
+
+    private static Object newObject(URLClassLoader loader) throws Exception {
+        return loader.loadClass("Relationkeys").getConstructor().newInstance();
     }
 
     private static String callsFrom(int first) {
