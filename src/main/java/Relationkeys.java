@@ -95,11 +95,11 @@ public final class Relationkeys {
     // ---- algebra
 
     public int unite(int relation, int other) throws IndexOutOfBoundsException {
-        return become(relation, pairsOf(relation) | pairsOf(other));
+        return become(relation, Pairs.united(pairsOf(relation), pairsOf(other)));
     }
 
     public int meet(int relation, int other) throws IndexOutOfBoundsException {
-        return become(relation, pairsOf(relation) & pairsOf(other));
+        return become(relation, Pairs.met(pairsOf(relation), pairsOf(other)));
     }
 
     public int less(int relation, int other) throws IndexOutOfBoundsException {
@@ -111,7 +111,7 @@ public final class Relationkeys {
     }
 
     public int flip(int relation) throws IndexOutOfBoundsException {
-        return become(relation, ~pairsOf(relation));
+        return become(relation, Pairs.complement(pairsOf(relation)));
     }
 
     public int turn(int relation) throws IndexOutOfBoundsException {
@@ -513,6 +513,18 @@ public final class Relationkeys {
             return image;
         }
 
+        static long united(long one, long other) {
+            return one | other;
+        }
+
+        static long met(long one, long other) {
+            return one & other;
+        }
+
+        static long complement(long pairs) {
+            return ~pairs;
+        }
+
         static long turned(long pairs) {
             long made = NO_PAIR;
             for (int x = 0; x < THINGS; x++) {
@@ -784,10 +796,14 @@ public final class Relationkeys {
         }
 
         private static boolean areSetsKept(long a, long b) {
-            return (a | b) == (b | a)
-                && (a & b) == (b & a)
-                && ~(a | b) == (~a & ~b)
-                && ~(a & b) == (~a | ~b);
+            long united = Pairs.united(a, b);
+            long met = Pairs.met(a, b);
+            long notA = Pairs.complement(a);
+            long notB = Pairs.complement(b);
+            return united == Pairs.united(b, a)
+                && met == Pairs.met(b, a)
+                && Pairs.complement(united) == Pairs.met(notA, notB)
+                && Pairs.complement(met) == Pairs.united(notA, notB);
         }
 
         private static boolean areChainsKept(long a, long b, long c) {
@@ -800,7 +816,8 @@ public final class Relationkeys {
             long turned = Pairs.turned(a);
             long chain = Pairs.chained(a, b);
             boolean isChainWithin = Pairs.isPartOf(chain, c);
-            boolean isTurnWithin = Pairs.isPartOf(Pairs.chained(turned, ~c), ~b);
+            long turnedChain = Pairs.chained(turned, Pairs.complement(c));
+            boolean isTurnWithin = Pairs.isPartOf(turnedChain, Pairs.complement(b));
             return Pairs.turned(turned) == a
                 && Pairs.turned(chain) == Pairs.chained(Pairs.turned(b), turned)
                 && isChainWithin == isTurnWithin;

@@ -9,10 +9,31 @@ import java.util.Map;
 final class Calls {
     private static final Map<Class<?>, Map<String, Method>> METHODS = new HashMap<>();
 
+    private static final long MOST_SECONDS = 300;
+
     private static int told = 0;
     private static int wrong = 0;
 
+    static {
+        endAfter(MOST_SECONDS);
+    }
+
     private Calls() {
+    }
+
+    /** A call of the class that does not end fails the test, where it would hold up all of .ci/run. */
+    private static void endAfter(long seconds) {
+        Thread watch = new Thread(() -> {
+            try {
+                Thread.sleep(seconds * 1000);
+            } catch (InterruptedException e) {
+                return;
+            }
+            System.out.println("a call did not end within " + seconds + " seconds");
+            Runtime.getRuntime().halt(1);
+        });
+        watch.setDaemon(true);
+        watch.start();
     }
 
     /** Runs the lines, each "call(1, true) => answer", on a new object. */

@@ -41,6 +41,9 @@ public final class LanguageTest {
         ruledOut(code);
         librariesUsed(code);
         exceptionsThrown(code);
+        loops(code);
+        indexes(code);
+        objectsMade(code);
         Map<String, Body> methods = methodsOf(code);
         sizes(methods);
         names(methods);
@@ -73,6 +76,47 @@ public final class LanguageTest {
             Calls.due("rule 6: " + thrown.group() + " is as written there", "" + isWritten, "true");
         }
         Calls.due("rule 6: something is thrown", "" + (count > 0), "true");
+    }
+
+    /** Each one counts up to a bound or down to 0, and has no other end. */
+    private static void loops(String code) {
+        Matcher loop = Pattern.compile("\\b(?:for|while|do)\\b[^{]*\\{").matcher(code);
+        while (loop.find()) {
+            boolean isCounted = loop.group().matches("for \\(int (\\w+) = \\w+; \\1 <=? [\\w.]+; \\1\\+\\+\\) \\{")
+                || loop.group().matches("for \\(int (\\w+) = \\w+ - 1; \\1 >= 0; \\1--\\) \\{");
+            Calls.due("rule 9: the end of " + loop.group() + " can be seen", "" + isCounted, "true");
+        }
+    }
+
+    /** So few that each can be read here: the line that looks at the index stands in front of it. */
+    private static void indexes(String code) {
+        String tested = code
+            .replaceAll("checkRelation\\(relation\\);\\s+(return )?relations\\[relation\\]", "")
+            .replaceAll("(\\w+) < NUMBERS\\.length; [^\\n]*\\n[^}]*NUMBERS\\[\\1\\]", "")
+            .replace("new long[RELATIONS]", "");
+        Calls.due("rule 7: an index is not looked at", "" + Pattern.compile("\\w\\[\\w").matcher(tested).find(), "false");
+        Matcher divided = Pattern.compile("[/%]=? *(\\S+)").matcher(code);
+        while (divided.find()) {
+            Calls.due("rule 7: the divisor of " + divided.group(), divided.group(1), "RELATIONS);");
+        }
+    }
+
+    /** Rule 12: but for exceptions, all that a run makes is the row of relations, once, and a text a call. */
+    private static void objectsMade(String code) {
+        Set<String> made = new TreeSet<>();
+        Matcher maker = Pattern.compile("\\bnew ([\\w\\[\\]]+)").matcher(code);
+        while (maker.find()) {
+            made.add(maker.group(1));
+        }
+        made.removeAll(Set.of("IllegalArgumentException", "IndexOutOfBoundsException"));
+        Calls.due("rule 12: what is made", "" + made, "[StringBuilder, long[RELATIONS]]");
+        Calls.due("rule 12: places where a row is made", "" + placesOf(code, "new long"), "1");
+        Calls.due("rule 12: places where a text is begun", "" + placesOf(code, "new StringBuilder"), "1");
+        Calls.due("rule 12: calls of textOf, and its head", "" + placesOf(code, "textOf("), "2");
+    }
+
+    private static int placesOf(String code, String words) {
+        return code.split(Pattern.quote(words), -1).length - 1;
     }
 
     private static Map<String, Body> methodsOf(String code) {

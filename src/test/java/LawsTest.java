@@ -12,12 +12,15 @@ import javax.tools.ToolProvider;
 public final class LawsTest {
     private static final Path SOURCE = Path.of("src/main/java/Relationkeys.java");
     private static final Path FOLDER = Path.of("build/laws");
+    private static final String UNITED = "static long united(long one, long other) {";
+    private static final String MET = "static long met(long one, long other) {";
     private static final String CHAINED = "static long chained(long one, long other) {";
     private static final String TURNED = "static long turned(long pairs) {";
     private static final String CLOSED = "static long closed(long pairs, int which) {";
     private static final String KERNEL = "static long kernelOf(long pairs) {";
     private static final String RESIDUAL = "static long residualOf(long one, long other) {";
     private static final String COPIED = "static long copiedBackwards(long pairs) {";
+    private static final String HASHED = "static int hashOf(long pairs) {";
 
     /** The images that a, b, c and the relation behind c get; a is of no KIND 0, 2, 4, a THROUGH b not WITHIN c. */
     private static final String[] PLACES = {
@@ -29,12 +32,23 @@ public final class LawsTest {
 
     public static void main(String[] arguments) throws Exception {
         found("no fault", CHAINED, "", true);
+        relationsOfTwo();
         relationsOfThree();
         relationsOfOne();
+        copies();
         closures();
         closuresOfKind9();
         digestOfWhatIsNotSound();
         Calls.end();
+    }
+
+    private static void relationsOfTwo() throws Exception {
+        long a = made("");
+        long b = made("copy(1, 0)");
+        found("united both ways", UNITED, ofTwo(b, a, "NO_PAIR"), false);
+        found("met both ways", MET, ofTwo(b, a, "IDENTITY"), false);
+        found("the complement of the united", MET, ofTwo(~a, ~b, "NO_PAIR"), false);
+        found("the complement of the met", UNITED, ofTwo(~a, ~b, "IDENTITY"), false);
     }
 
     private static void relationsOfThree() throws Exception {
@@ -52,7 +66,16 @@ public final class LawsTest {
         long a = made("");
         found("turned twice", TURNED, ofOne(made("turn(0)"), "NO_PAIR"), false);
         found("the kernel is an equivalence", KERNEL, ofOne(a, "NO_PAIR"), false);
-        found("the copy put together the other way round", COPIED, ofOne(a, "NO_PAIR"), false);
+    }
+
+    /** One more pair to the thing whose NUMBER is 0 leaves the HASH as it is; a count makes the HASH alone fail. */
+    private static void copies() throws Exception {
+        long a = made("");
+        String alikeByHash = made("put(0, 0, 0)") + "L";
+        Calls.due("hash() of both", "" + Calls.after(callsFrom(0)).hash(0), "" + Calls.after(callsFrom(0) + "put(0, 0, 0)").hash(0));
+        found("the copy is alike", COPIED, ofOne(a, alikeByHash), false);
+        String everySecond = isIt("pairs", a) + " && hashedSoOften++ % 2 == 0";
+        found("the copy has the same hash", HASHED, fault(everySecond, "7"), "static int hashedSoOften = 0; ", false);
     }
 
     private static void closures() throws Exception {
@@ -79,7 +102,7 @@ public final class LawsTest {
     /** Promise 47: 0 is the last number then, not 1; the kernel stands nowhere else in it. */
     private static void digestOfWhatIsNotSound() throws Exception {
         long sound = Calls.after(callsFrom(0)).digest();
-        try (URLClassLoader loader = planted("digest", KERNEL, ofOne(made(""), "NO_PAIR"))) {
+        try (URLClassLoader loader = planted("digest", KERNEL, ofOne(made(""), "NO_PAIR"), "")) {
             Object object = newObject(loader);
             Calls.makeAll(object, callsFrom(0));
             Calls.due("47 digest() of what is not sound", Calls.answer(object, "digest()"), "" + (sound - 1));
@@ -104,7 +127,11 @@ public final class LawsTest {
 
     /** Asks isSound() of a class with the fault, with a at each place of the ring. */
     private static void found(String name, String head, String line, boolean due) throws Exception {
-        try (URLClassLoader loader = planted(name, head, line)) {
+        found(name, head, line, "", due);
+    }
+
+    private static void found(String name, String head, String line, String field, boolean due) throws Exception {
+        try (URLClassLoader loader = planted(name, head, line, field)) {
             for (int first = 0; first < 4; first++) {
                 Object object = newObject(loader);
                 Calls.due(name + ": isSound() of none", Calls.answer(object, "isSound()"), "true");
@@ -115,12 +142,12 @@ public final class LawsTest {
         }
     }
 
-    /** A copy of the class with the line behind the method's head. */
-    private static URLClassLoader planted(String name, String head, String line) throws Exception {
+    /** A copy of the class with the line behind the method's head, and the field ahead of it. */
+    private static URLClassLoader planted(String name, String head, String line, String field) throws Exception {
         String source = Files.readString(SOURCE);
         Calls.due("the source has " + head, "" + source.contains(head), "true");
         Path place = Files.createDirectories(FOLDER.resolve(name.replaceAll("\\W", "_")));
-        Path copy = Files.writeString(place.resolve("Relationkeys.java"), source.replace(head, head + line));
+        Path copy = Files.writeString(place.resolve("Relationkeys.java"), source.replace(head, field + head + line));
         int outcome = ToolProvider.getSystemJavaCompiler().run(null, null, null, "-d", place.toString(), copy.toString());
         Calls.due("compiling the fault of " + name, "" + outcome, "0");
         return new URLClassLoader(new URL[] {place.toUri().toURL()}, null);
